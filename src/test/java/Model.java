@@ -34,6 +34,7 @@ final class Model {
     }
 
     private static final class ReadError extends RuntimeException {
+        private static final long serialVersionUID = 1L;
         final int at;
 
         ReadError(int at) {
@@ -111,6 +112,7 @@ final class Model {
     }
 
     private static final class Failure extends RuntimeException {
+        private static final long serialVersionUID = 1L;
         final int reason;
 
         Failure(int reason) {
@@ -251,7 +253,7 @@ final class Model {
         }
     }
 
-    private static final class State implements Cloneable {
+    private static final class State {
         String[] values = new String[8];
         Run latest = new Run("", new String[8], -1);
         int renderings;
