@@ -233,11 +233,29 @@ public final class PromisesTest {
         tells("{?a:".repeat(12) + "}".repeat(12), 12, 12, 1, 0, 0);
         tells("a".repeat(60), 60, 1, 0, 0, 0);
         tells("{*a:".repeat(11) + "12345" + "}".repeat(11), 16, 12, 1, 0, 11);
+        tellsAnew();
         refusesIncomplete("7: parts", TemplateScopes::parts);
         refusesIncomplete("8: depth", TemplateScopes::depth);
         refusesIncomplete("9: names", TemplateScopes::names);
         refusesIncomplete("10: namesSet", TemplateScopes::namesSet);
         refusesIncomplete("11: loops", TemplateScopes::loops);
+    }
+
+    /** What was told of one template does not stay for the next one. */
+    private static void tellsAnew() {
+        TemplateScopes desk = desk("{*a:{=b:{?c:}}}{");
+        is("6: not complete", desk.isComplete(), false);
+        write(desk, "{*a:{=b:{?c:}}}");
+        is("8: depth of three", desk.depth(), 3);
+        is("9: names of three", desk.names(), 7);
+        write(desk, "{d}");
+        is("7: parts of the next one", desk.parts(), 1);
+        is("8: depth of the next one", desk.depth(), 1);
+        is("9: names of the next one", desk.names(), 8);
+        is("10: namesSet of the next one", desk.namesSet(), 0);
+        is("11: loops of the next one", desk.loops(), 0);
+        desk.clearTemplate();
+        is("7 to 11: without parts", desk.parts() + desk.depth() + desk.names() + desk.loops(), 0);
     }
 
     // ---- promises 12 to 24
@@ -398,6 +416,8 @@ public final class PromisesTest {
     private static void render() {
         renders("", "", "0");
         renders("abc:!", "abc:!", "0");
+        renders(LETTERS_24.repeat(3).substring(0, 60), LETTERS_24.repeat(3).substring(0, 60), "0");
+        renders("{*a:" + "y".repeat(55) + "}", "y".repeat(165), "0", "a=123");
         renders("~a~{~}~~", "a{}~", "0");
         renders("{a}{b}", "x{y}~", "0", "a=x{y}", "b=~");
         renders("{!a}{!b}", "~{x~}~~", "0", "a={x}", "b=~");
@@ -619,10 +639,28 @@ public final class PromisesTest {
         refusesIncomplete("40: wouldPrintByText", TemplateScopes::wouldPrintByText);
         refusesIncomplete("41: wouldFail", TemplateScopes::wouldFail);
         refusesIncomplete("42: wouldPrintWithout", d -> d.wouldPrintWithout(0));
+        byText();
         String[] deep = {"a={?b:{?b:{?b:{?b:{^b}}}}}", "b={*c:{*c:{*c:{*c:{^d}}}}}",
             "c=1", "d={=c:{=c:{=c:{=c:{^e}}}}}", "e={*f:{*f:{*f:{*f:1234}}}}", "f=1"};
         renders("{=c:".repeat(11) + "{^a}" + "}".repeat(11), "", "0", deep);
         renders("{*f:".repeat(11) + "{^a}" + "}".repeat(11), "", "0", deep);
+    }
+
+    /** What going through the text could miss where going through the parts does not. */
+    private static void byText() {
+        renders("1{^a}!", "123456!!!!!", "0", "a=2{^b}!", "b=3{^c}!", "c=4{^d}!", "d=5{e}!", "e=6");
+        renders("1{^a}!", "12345", "4: 1 1 1 1 1", "a=2{^b}!", "b=3{^c}!", "c=4{^d}!", "d=5{^e}!", "e=6");
+        renders("{*a:~~{?b:~}{x}}{b}~{}.{c}", ".1", "0", "a=", "c=1");
+        renders("{?b:{!a}{^a}{?a:{=a:}}}.{*b:{*a:{a}}}.", "..", "0", "a=12", "b=");
+        renders("{*a:{^x}}", "", "5: 4 0", "a=}123");
+        renders("{*a:{k}{^x}}!", "01122", "5: 7 0", "a=12}");
+        TemplateScopes desk = desk("{*a:{=c:{^b}}}", "a=12", "b={h}");
+        is("40: within much", desk.wouldPrintByText(), 0);
+        write(desk, "{a}{*a:{k}}.");
+        is("40: as if for the first time", desk.wouldPrintByText(), 5);
+        write(desk, "{^b}.");
+        is("40: ahead of a failure", desk.wouldPrintByText(), 0);
+        is("40: told again", desk.wouldPrintByText(), 0);
     }
 
     private static void undo() {
