@@ -2,15 +2,21 @@
 final class Check {
     private static int made;
     private static int wrong;
+    private static String test = "";
 
     private Check() {
+    }
+
+    /** What the checks that follow are part of, "" for none. */
+    static void within(String name) {
+        test = name;
     }
 
     static void is(String what, Object got, Object want) {
         made++;
         if (!want.equals(got)) {
             wrong++;
-            System.out.println(what + ": answered " + got + ", due is " + want);
+            System.out.println((test.isEmpty() ? "" : test + "\n  ") + what + ": answered " + got + ", due is " + want);
         }
     }
 

@@ -1,17 +1,8 @@
 import java.util.function.IntFunction;
-import java.util.function.IntUnaryOperator;
 import java.util.function.ToIntFunction;
 
 /** Each promise of the document by its number: ordinary inputs, edges, and wrong inputs. */
-public final class PromisesTest {
-    private static final Class<?> INDEX = IndexOutOfBoundsException.class;
-    private static final Class<?> ARGUMENT = IllegalArgumentException.class;
-    private static final Class<?> STATE = IllegalStateException.class;
-    private static final int[] NO_VARIABLES = {-1, 8, Integer.MIN_VALUE, Integer.MAX_VALUE};
-    private static final int[] NO_CODES = {32, 127, 0, -1, Integer.MIN_VALUE, Integer.MAX_VALUE};
-    private static final String LETTERS_24 = "abcdefghijklmnopqrstuvwx";
-    private static final String[] INCOMPLETE = {"}", "{", "~", "{a", "{i}", "{!}", "{*a}", "{*a:", "{?a:~}", "{=a:{}}"};
-
+public final class PromisesTest extends Desks {
     public static void main(String[] args) {
         newObject();
         template();
@@ -35,78 +26,6 @@ public final class PromisesTest {
     }
 
     // ---- what the tests use
-
-    private static void is(String what, Object got, Object want) {
-        Check.is(what, got, want);
-    }
-
-    private static void write(TemplateScopes desk, String text) {
-        desk.clearTemplate();
-        for (char c : text.toCharArray()) {
-            desk.append(c);
-        }
-    }
-
-    private static void give(TemplateScopes desk, char name, String value) {
-        desk.emptyValue(name - 'a');
-        for (char c : value.toCharArray()) {
-            desk.appendValue(name - 'a', c);
-        }
-    }
-
-    /** A desk with a template, and values told as "a=.." */
-    private static TemplateScopes desk(String template, String... values) {
-        TemplateScopes desk = new TemplateScopes();
-        for (String value : values) {
-            give(desk, value.charAt(0), value.substring(2));
-        }
-        write(desk, template);
-        return desk;
-    }
-
-    private static String text(int length, IntUnaryOperator codeAt) {
-        StringBuilder text = new StringBuilder();
-        for (int i = 0; i < length; i++) {
-            text.append((char) codeAt.applyAsInt(i));
-        }
-        return text.toString();
-    }
-
-    private static String output(TemplateScopes desk) {
-        return text(desk.outputLength(), desk::outputCharacter);
-    }
-
-    private static String value(TemplateScopes desk, char name) {
-        int variable = name - 'a';
-        return desk.hasValue(variable) ? text(desk.valueLength(variable), i -> desk.valueCharacter(variable, i)) : "none";
-    }
-
-    /** "0" for no failure, or the reason and the places. */
-    private static String failure(TemplateScopes desk) {
-        if (!desk.hasFailed()) {
-            return "0";
-        }
-        StringBuilder told = new StringBuilder(desk.failureReason() + ":");
-        for (int i = 0; i < desk.failurePlaces(); i++) {
-            told.append(' ').append(desk.failurePlace(i));
-        }
-        return told.toString();
-    }
-
-    /** Renders; all that tells of a rendering must agree. */
-    private static void renders(String template, String wanted, String failure, String... values) {
-        TemplateScopes desk = desk(template, values);
-        String what = template + " with " + String.join(" ", values);
-        is("wouldPrint " + what, desk.wouldPrint(), wanted.length());
-        is("wouldPrintByText " + what, desk.wouldPrintByText(), wanted.length());
-        is("wouldFail " + what, desk.wouldFail(), failure.charAt(0) - '0');
-        is("render " + what, desk.render(), wanted.length());
-        is("output of " + what, output(desk), wanted);
-        is("failure of " + what, failure(desk), failure);
-        is("failed " + what, desk.hasFailed(), !failure.equals("0"));
-        is("failures " + what, desk.failures(), failure.equals("0") ? 0 : 1);
-        is("template stays " + what, desk.templateLength(), template.length());
-    }
 
     private static void refusesVariables(String what, TemplateScopes desk, IntFunction<Object> call) {
         for (int variable : NO_VARIABLES) {
