@@ -107,8 +107,9 @@ final class EdgesOfOutcomes extends Edges {
 
     private static void whatIsCounted() {
         in("What is counted");
-        String sentence = "Of the characters that a rendering prints to the output it is counted how many are of plain characters, how many of escapes, "
-                + "and how many of values (of all kinds of parts by the name of which a value is printed; what an included value prints is counted by its parts).";
+        String sentence = "Of the characters that a rendering prints to the output it is counted how many are of plain characters, "
+                + "how many of escapes, and how many of values (of all kinds of parts by the name of which a value is printed; "
+                + "what an included value prints is counted by its parts).";
         edge(sentence, "none, and of one kind alone", () -> {
             is("none", counts(rendered("")), "0 0 0, 1 0 0");
             is("plain", counts(rendered("x".repeat(60))), "60 0 0, 1 0 60");

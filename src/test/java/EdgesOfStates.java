@@ -394,9 +394,9 @@ final class EdgesOfStates extends Edges {
         edge("A call that throws an exception changes nothing.", "undo brings back what was ahead of the call before it", () -> {
             TemplateScopes desk = desk("{", "a=1");
             desk.appendValue(0, '2');
-            for (Consumer<TemplateScopes> call : List.<Consumer<TemplateScopes>>of(desk2 -> desk2.appendValue(0, 32),
-                    desk2 -> desk2.removeValue(5), desk2 -> desk2.emptyValue(8), desk2 -> desk2.copyValue(0, 5),
-                    desk2 -> desk2.escapeValue(5), desk2 -> desk2.takeOutput(8), desk2 -> desk2.takeTemplate(-1),
+            for (Consumer<TemplateScopes> call : List.<Consumer<TemplateScopes>>of(each -> each.appendValue(0, 32),
+                    each -> each.removeValue(5), each -> each.emptyValue(8), each -> each.copyValue(0, 5),
+                    each -> each.escapeValue(5), each -> each.takeOutput(8), each -> each.takeTemplate(-1),
                     TemplateScopes::render, TemplateScopes::restore)) {
                 try {
                     call.accept(desk);

@@ -1,3 +1,4 @@
+import java.util.List;
 import java.util.function.ToIntFunction;
 
 /** Sentences on names, on templates and their errors, and the promises 1 to 11. */
@@ -21,7 +22,7 @@ final class EdgesOfTemplates extends Edges {
         isComplete();
         parts();
         depth();
-        names9();
+        namesOfTheTemplate();
         namesSet();
         loops();
     }
@@ -253,7 +254,8 @@ final class EdgesOfTemplates extends Edges {
 
     private static void errors() {
         in("Templates");
-        String sentence = "A character of a template is an error if no template, of any length, begins with the characters before it and this character.";
+        String sentence = "A character of a template is an error if no template, of any length, "
+                + "begins with the characters before it and this character.";
         edge(sentence, "the first character", () -> {
             for (char code = 33; code <= 126; code++) {
                 reads("" + code, code == '}' ? 0 : 1, code != '}' && code != '{' && code != '~');
@@ -330,7 +332,7 @@ final class EdgesOfTemplates extends Edges {
         edge(sentence, "also behind the use of another one", () -> {
             TemplateScopes other = laden(rendered("{a}{h}", "a=12"));
             is("digest", new TemplateScopes().digest() == other.digest(), false);
-            is("all", allOf(new TemplateScopes()), java.util.List.of(new TemplateScopes().digest(), -1L));
+            is("all", allOf(new TemplateScopes()), List.of(new TemplateScopes().digest(), -1L));
         });
     }
 
@@ -544,7 +546,7 @@ final class EdgesOfTemplates extends Edges {
                 refusesIncomplete(TemplateScopes::depth));
     }
 
-    private static void names9() {
+    private static void namesOfTheTemplate() {
         promise(9);
         edge("Returns the names in the template.", "of each kind of part", () -> {
             for (String part : new String[] {"{h}", "{!h}", "{^h}", "{*h:}", "{?h:}", "{=h:}", "{?h:{=h:}}"}) {

@@ -109,7 +109,8 @@ public final class FaceTest {
                 "\\bsynchronized\\b", "\\bprotected\\b", "\\bDouble\\b", "\\bThread\\b", "Exact\\b", "\\bT \\+", "\\+ T\\b",
                 "\\bhashCode\\b", "\\bimport (?!java\\.util\\.(ArrayList|List|Arrays|Iterator|NoSuchElementException);)",
                 "\\bSystem\\.(?!arraycopy)", "\\bArrays\\.(?!copyOf|copyOfRange|fill)", "\\bMath\\.(?!compare|max|min|abs|floorDiv|floorMod)",
-                "\\b(NullPointer|ArrayIndexOutOfBounds|ClassCast|NegativeArraySize|ArrayStore)Exception\\b", "\\bcatch \\((Exception|Throwable|Error)\\b"}) {
+                "\\b(NullPointer|ArrayIndexOutOfBounds|ClassCast|NegativeArraySize|ArrayStore)Exception\\b",
+                "\\bcatch \\((Exception|Throwable|Error)\\b"}) {
             Check.is("no " + word, Pattern.compile(word).matcher(code).find(), false);
         }
         Matcher thrown = Pattern.compile("\\bthrow\\b([^;]*);").matcher(code);
