@@ -65,11 +65,17 @@ final class EdgesOfTemplates extends Edges {
             desk.isComplete();
             write(desk, "{h}");
             is("behind one that is not complete", call.applyAsInt(desk), then);
-            give(desk, 'a', "{*a:{=b:}}");
-            desk.isTemplate(0);
-            is("behind a look at a value", call.applyAsInt(desk), then);
-            desk.clearTemplate();
-            is("of none", call.applyAsInt(desk), 0);
+            for (String value : new String[] {"{*a:{=b:}}", "{=b:{*a:}}", "{?c:{?c:}}"}) {
+                give(desk, 'a', value);
+                desk.isTemplate(0);
+                is("behind a look at a value", call.applyAsInt(desk), then);
+            }
+            for (String value : new String[] {"{*a:{=b:}}", "{=b:{*a:}}", "{?c:{?c:}}"}) {
+                desk.clearTemplate();
+                give(desk, 'a', value);
+                desk.isTemplate(0);
+                is("of none", call.applyAsInt(desk), 0);
+            }
         });
     }
 
