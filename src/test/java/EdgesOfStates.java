@@ -516,6 +516,21 @@ final class EdgesOfStates extends Edges {
             is("of a loop", desk("1{*b:" + within + "}2", "b=").wouldPrintByText(), 2);
             is("within one another", desk("1{?a:2{?h:{?a:3}4}5}6", "a=1").wouldPrintByText(), 4);
         });
+        edge("Returns the same, told by going through its text, character by character.", "each pass with its own character", () -> {
+            renders("{*b:{!x}}", "~{y~~", "0", "a=yyy", "b={y~");
+            renders("{*b:{!x}}", "p~}q", "0", "a=~~~", "b=p}q");
+            renders("{*b:{*c:{!x}}{!x}}", "y~~y~{y~~yy", "0", "a=~~~", "b={y", "c=y~y");
+            renders("{*b:{*c:{*d:{!x}}{!x}}{!x}}", "~}y~~~}yyy~}y~~~}yy~{", "0", "a=~~~", "b=y{", "c=~y", "d=}y");
+            renders("{*b:{^c}{!x}}", "~~y~yy" + "~~y~~{~{", "0", "a=yyy", "b=y{", "c={*d:{!x}}~~{!x}", "d=~y");
+            renders("{*b:{^x}}", "y", "5: 4 1", "a=~~~", "b=y~y");
+            renders("{*b:{*x:{!x}}}", "~{y~~", "0", "a=yyy", "b={y~");
+        });
+        edge("Returns the same, told by going through its text, character by character.", "each pass with its own number", () -> {
+            renders("{*b:{*c:{k}}{k}}", "0123456789100" + "0123456789101", "0", "a=p", "b=pq", "c=abcdefghijk");
+            renders("{*c:{*b:{k}}{k}}", "010011012013014015016017018019" + "0110", "0", "a=p", "b=pq", "c=abcdefghijk");
+            renders("{*c:{*k:{x}}}", "012345678910", "0", "a=p", "c=abcdefghijk");
+            renders("{*c:{*b:{=k:123}}{k}}", "012345678910", "0", "b=p", "c=abcdefghijk");
+        });
         edge("Returns the same, told by going through its text, character by character.", "as deep as there is room for", () -> {
             String[] values = {"a={?b:{?b:{?b:{?b:{^b}}}}}", "b={*c:{*c:{*c:{*c:{^d}}}}}",
                 "c=1", "d={?c:{?c:{?c:{?c:{^e}}}}}", "e={*f:{*f:{*f:{*f:1234}}}}", "f=1"};
